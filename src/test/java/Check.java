@@ -1,0 +1,118 @@
+/** What all tests share: counting answers that are not due, and ways to bring programs onto a tape. */
+final class Check {
+    static final int STATE = 1, ARGUMENT = 2, INDEX = 3, ARITHMETIC = 4;
+    private static int wrong = 0;
+    private static int asked = 0;
+
+    private Check() {
+    }
+
+    static void due(String what, long got, long want) {
+        asked++;
+        if (got != want) {
+            wrong++;
+            System.out.println(what + " answered " + got + ", due is " + want);
+        }
+    }
+
+    /** A call that should throw; the call itself answers through its interface. */
+    interface Call {
+        void make();
+    }
+
+    static void throwing(String what, int want, Call call) {
+        int got = 0;
+        try {
+            call.make();
+        } catch (IllegalStateException e) {
+            got = e.getClass() == IllegalStateException.class ? STATE : -1;
+        } catch (IllegalArgumentException e) {
+            got = e.getClass() == IllegalArgumentException.class ? ARGUMENT : -1;
+        } catch (IndexOutOfBoundsException e) {
+            got = e.getClass() == IndexOutOfBoundsException.class ? INDEX : -1;
+        } catch (ArithmeticException e) {
+            got = ARITHMETIC;
+        }
+        due(what + " throws (1 state, 2 argument, 3 index, 4 arithmetic)", got, want);
+    }
+
+    /** Brings bytes onto an empty tape, as many feeds as it needs and an end. */
+    static void tape(HomeSystem system, byte[] bytes) {
+        for (int at = 0; at < bytes.length; at += 20) {
+            int[] words = new int[5];
+            for (int i = 0; i < 20; i++) {
+                int b = at + i < bytes.length ? bytes[at + i] & 255 : 0;
+                words[i / 4] |= b << 24 - 8 * (i % 4);
+            }
+            system.feed(words[0], words[1], words[2], words[3], words[4]);
+        }
+        system.end(bytes.length);
+    }
+
+    static byte[] bytes(String text) {
+        byte[] bytes = new byte[text.length()];
+        for (int i = 0; i < bytes.length; i++) {
+            bytes[i] = (byte) text.charAt(i);
+        }
+        return bytes;
+    }
+
+    static int text(HomeSystem system, int program, String text) {
+        tape(system, bytes(text));
+        return system.text(program);
+    }
+
+    /** A text that is right. */
+    static void right(HomeSystem system, int program, String text) {
+        due("text " + text, text(system, program, text), 0);
+        due("place " + text, system.place(), 0);
+    }
+
+    /** A text that is none or wrong; the byte ` marks the place and is left out. */
+    static void wrongText(int want, String marked) {
+        int at = marked.indexOf('`');
+        String text = at < 0 ? marked : marked.substring(0, at) + marked.substring(at + 1);
+        HomeSystem system = new HomeSystem();
+        due("text " + marked, text(system, 0, text), want);
+        due("place " + marked, system.place(), (at < 0 ? text.length() : at) + 1);
+        due("run " + marked, system.run(0, 0, 1, 1), HomeSystem.NONE);
+    }
+
+    /** A text that can't stand, at ` or at its end. */
+    static void none(String marked) {
+        wrongText(HomeSystem.NONE, marked);
+    }
+
+    static void words(HomeSystem system, int program, int... words) {
+        byte[] bytes = new byte[4 * words.length];
+        for (int i = 0; i < bytes.length; i++) {
+            bytes[i] = (byte) (words[i / 4] >>> 8 * (i % 4));
+        }
+        tape(system, bytes);
+        due("raw", system.raw(program), words.length);
+    }
+
+    /** What a process wrote. */
+    static void paper(String what, HomeSystem system, int process, int... numbers) {
+        due(what + ": paper", system.paper(process), numbers.length);
+        for (int i = 0; i < numbers.length && i < system.paper(process); i++) {
+            due(what + ": paperAt " + i, system.paperAt(process, i), numbers[i]);
+        }
+    }
+
+    static String times(String text, int count) {
+        StringBuilder all = new StringBuilder();
+        for (int i = 0; i < count; i++) {
+            all.append(text);
+        }
+        return all.toString();
+    }
+
+    /** Ends a test's main. */
+    static void end(String test) {
+        System.out.println(test + ": " + (asked - wrong) + " answers as due, " + wrong + " not");
+        if (wrong != 0 || asked == 0) {
+            System.exit(1);
+        }
+    }
+}
