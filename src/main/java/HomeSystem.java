@@ -835,10 +835,6 @@ public final class HomeSystem {
             return i >= 0 && i < functions.size() ? functions.get(i) : null;
         }
 
-        int ownFunctions() {
-            return functions.size() - GIVEN_FUNCTIONS;
-        }
-
         /** The function that was added last wants one more. */
         void addWant(Symbol function, int want) {
             if (wanted < wants.length) {
@@ -974,7 +970,7 @@ public final class HomeSystem {
         }
 
         /** Reads an expression that binds as the level says, or more; what may be OPEN bounds how deep this goes. */
-        Operand parse(int level) {
+        private Operand parse(int level) {
             Operand x = operand();
             if (level == WHOLE && tokens.kind() >= ASSIGN) {
                 return assign(x);
@@ -1196,8 +1192,12 @@ public final class HomeSystem {
         private Operand figure() {
             Operand x = new Operand(tokens.now, VALUE, KNOWN);
             x.number = tokens.meaning();
-            tokens.expect(NUMBER);
             program.emit(PUSH, x.number, 0, 0);
+            if (tokens.kind() == NUMBER) {
+                tokens.step();
+            } else {
+                tokens.fail();
+            }
             return x;
         }
 
@@ -1601,7 +1601,11 @@ public final class HomeSystem {
                 if (tokens.kind() != '[') {
                     single(symbol);
                 } else if (row(symbol)) {
-                    rowValue(symbol, tokens.now);
+                    int value = tokens.now;
+                    boolean fits = tokens.kind() == STRING ? string(symbol) : list(symbol);
+                    if (!fits) {
+                        tokens.blame(8, value);
+                    }
                 }
                 declare(symbol, token);
                 going = tokens.accept(',');
@@ -1660,14 +1664,7 @@ public final class HomeSystem {
             return tokens.accept(ASSIGN);
         }
 
-        /** Where the size is wrong, this may be blamed as well: it stands behind that. */
-        private void rowValue(Symbol symbol, int token) {
-            boolean fits = tokens.kind() == STRING ? string(symbol) : list(symbol);
-            if (!fits) {
-                tokens.blame(8, token);
-            }
-        }
-
+        /** Whether the string here can be what a row begins with; a wrong size is blamed before it, and counts as 1. */
         private boolean string(Symbol symbol) {
             int from = tokens.meaning();
             int count = tokens.quotedNumber(from);

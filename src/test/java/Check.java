@@ -36,14 +36,16 @@ final class Check {
         due(what + " throws (1 state, 2 argument, 3 index, 4 arithmetic)", got, want);
     }
 
-    /** Brings bytes onto an empty tape, as many feeds as it needs and an end. */
+    /** Brings bytes onto an empty tape; where the last twenty do not fit, some before them are fed again. */
     static void tape(HomeSystem system, byte[] bytes) {
         for (int at = 0; at < bytes.length; at += 20) {
+            int from = at + 20 > 2048 ? bytes.length - 20 : at;
             int[] words = new int[5];
             for (int i = 0; i < 20; i++) {
-                int b = at + i < bytes.length ? bytes[at + i] & 255 : 0;
+                int b = from + i < bytes.length ? bytes[from + i] & 255 : 0;
                 words[i / 4] |= b << 24 - 8 * (i % 4);
             }
+            system.end(from);
             system.feed(words[0], words[1], words[2], words[3], words[4]);
         }
         system.end(bytes.length);
@@ -98,6 +100,26 @@ final class Check {
         for (int i = 0; i < numbers.length && i < system.paper(process); i++) {
             due(what + ": paperAt " + i, system.paperAt(process, i), numbers[i]);
         }
+    }
+
+    /** The value of a text that is right and ends DONE, begun with x, with all the work and stack there can be. */
+    static void value(String text, int x, int want) {
+        HomeSystem system = new HomeSystem();
+        right(system, 0, text);
+        due("run " + text, system.run(0, x, 100, 512), HomeSystem.DONE);
+        due("value " + text, system.value(0), want);
+    }
+
+    /** What main gives when it only gives an expression of n. */
+    static void expression(String expression, int n, int want) {
+        value("int main(int n) { return " + expression + "; }", n, want);
+    }
+
+    static void outcome(String text, int x, int work, int stack, int want) {
+        HomeSystem system = new HomeSystem();
+        right(system, 0, text);
+        due("run with work " + work + ", stack " + stack + " of " + text, system.run(0, x, work, stack), want);
+        due("outcome of " + text, system.outcome(0), want);
     }
 
     static String times(String text, int count) {
