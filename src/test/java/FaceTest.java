@@ -80,6 +80,11 @@ public final class FaceTest {
         Check.due("three bytes are no word", system.raw(7), HomeSystem.NONE);
         Check.throwing("and are gone", Check.ARGUMENT, () -> system.end(1));
         Check.due("no words, no program", system.run(7, 0, 1, 100), HomeSystem.NONE);
+        for (int i = 0; i < 4; i++) {
+            Check.right(system, i, "int x = 4; int main(int n) { return " + Check.times("n+", 900) + i + "; }");
+            Check.due("a large one", system.run(i, 1, 1, 100), HomeSystem.DONE);
+            Check.due("its value", system.value(0), 900 + i);
+        }
         for (int i = 0; i < 8; i++) {
             Check.right(system, i, "int main(int n) { return n + " + i + "; }");
         }

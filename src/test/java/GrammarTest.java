@@ -186,6 +186,13 @@ public final class GrammarTest {
         Check.expression("(" + Check.times("- ", 57) + "n) + 1", 3, -2);
         Check.expression("(" + Check.times("- ", 57) + "n)", 3, -3);
         Check.none(main + "(" + Check.times("- ", 58) + "n) `+ 1; }");
+        // what is assigned is a part of it
+        Check.expression("(n = " + Check.times("- ", 56) + "n) + 1", 3, 4);
+        Check.none(main + "(n = " + Check.times("- ", 57) + "n) `+ 1; }");
+        Check.expression("(n ? " + Check.times("- ", 56) + "n : 1) + 1", 3, 4);
+        Check.none(main + "(n ? " + Check.times("- ", 57) + "n : 1) `+ 1; }");
+        Check.none(main + "(n ? 1 : " + Check.times("- ", 57) + "n) `+ 1; }");
+        Check.none(main + "((" + Check.times("- ", 57) + "n) `? 1 : n) + 1; }");
         // a call is deeper than its arguments by one, one without any has a depth of 1
         String f = "int f(int x) { return x; } int g() { return 1; } ";
         Check.value(f + main + Check.times("f(", 57) + "g()" + Check.times(")", 57) + " + 1; }", 3, 2);

@@ -201,6 +201,8 @@ public final class MeaningTest {
         Check.wrongText(7, "enum { a = `(1 / 0 ? 1 : 2) };" + MAIN);
         Check.value("enum { a = 0 && 1 / 0, b = 1 || 1 / 0, c = 1 ? 7 : 1 / 0, d = 0 ? 1 % 0 : 8 };"
                 + "int main(int n) { return a + b * 10 + c * 100 + d * 1000; }", 0, 8710);
+        Check.value("enum { a = 1 && 5, b = 4 || 0, c = 0 || 7, d = 0 || 0, e = 5 && 0, f = 0 && 1 };"
+                + "int main(int n) { return a + b * 10 + c * 100 + d * 1000 + e * 10000 + f * 100000; }", 0, 111);
         // names that are not known don't matter for that
         Check.wrongText(2, "int a[1 + `x];" + MAIN);
         Check.wrongText(2, "int a[1 + `main];" + MAIN);
@@ -238,6 +240,9 @@ public final class MeaningTest {
         Check.wrongText(9, "int main(int n) { if (n) { `break; } }");
         Check.wrongText(9, "int main(int n) { switch (n) { case 1: `continue; } }");
         Check.wrongText(9, "int main(int n) { while (n) break; `break; }");
+        Check.wrongText(9, "int main(int n) { do break; while (n); `break; }");
+        Check.wrongText(9, "int main(int n) { for (;;) continue; `continue; }");
+        Check.wrongText(9, "int main(int n) { switch (n) { case 1: break; } `break; }");
         Check.wrongText(9, "int f() { while (1) { break; continue; } } int main(int n) { `break; }");
         Check.value("int main(int n) { while (1) { switch (n) { case 1: n = 5; continue; default: break; } break; } return n; }", 1, 5);
     }

@@ -143,6 +143,16 @@ public final class ProcessTest {
         Check.paper("child", system, 1, 1, 2, 9);
         Check.due("child waits for good", system.outcome(1), HomeSystem.WAITS);
         Check.due("row up without a reader", system.unread(1, true), 0);
+        // it is the parent's end that counts, not that of the first one, nor the other way round
+        system = system("int main(int n) { if (n == 2) { put(more(0)); end(2); } spawn(0, n + 1); if (n == 0) recv(1); return n; }");
+        Check.due("the first waits", system.run(0, 0, 100, 512), HomeSystem.WAITS);
+        Check.due("its child", system.outcome(1), HomeSystem.DONE);
+        Check.due("and that one's", system.outcome(4), HomeSystem.ENDED);
+        Check.paper("of an ended parent", system, 4, 0);
+        system = system("int main(int n) { if (n == 2) { put(more(0)); end(2); } spawn(0, n + 1); if (n) recv(1); return n; }");
+        Check.due("the first ends", system.run(0, 0, 100, 512), HomeSystem.DONE);
+        Check.due("its child waits for good", system.outcome(1), HomeSystem.WAITS);
+        Check.due("and so that one's", system.outcome(4), HomeSystem.WAITS);
     }
 
     private static void asking() {

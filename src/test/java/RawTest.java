@@ -317,6 +317,12 @@ public final class RawTest {
             gives("register " + k, 3, want, words(addi(A, k, 0)));
         }
         HomeSystem system = new HomeSystem();
+        Check.words(system, 0, join(words(r(0, 0, A, T0, T1), addi(T0, 0, 7), addi(T1, 0, 8), addi(2, 0, 9), addi(CALL, 0, 1), SYSTEM, r(0, 0, A, A, 2)),
+                words(addi(CALL, 0, 0), SYSTEM)));
+        for (int k = 0; k < 2; k++) {
+            Check.due("registers are set anew", system.run(0, 1, 1, 0), HomeSystem.DONE);
+            Check.paper("registers are set anew", system, 0, 0);
+        }
         int[] most = new int[512];
         java.util.Arrays.fill(most, addi(A, A, 1));
         most[511] = SYSTEM;

@@ -26,6 +26,8 @@ public final class RunningTest {
         Check.expression("1 << 31", 0, Integer.MIN_VALUE);
         Check.expression("n < 3 == n <= 3", 3, 0);
         Check.expression("(n > 2) + (n >= 3) * 10 + (n != 3) * 100 + (n == 3) * 1000", 3, 1011);
+        Check.expression("(n > 3) + (n >= 4) * 10 + (n <= 2) * 100 + (n <= 3) * 1000 + (n < 3) * 10000", 3, 1000);
+        Check.expression("(n < 4) + (n >= 2) * 10 + (n == 2) * 100 + (n != 2) * 1000", 3, 1011);
         Check.expression("-1 < 4294967295 == 0", 0, 1);
         Check.expression("!n * 100 + !!n * 10 + ~n", 5, 4);
         Check.expression("n & 6 | 9 ^ 3", 5, 14);
@@ -112,6 +114,8 @@ public final class RunningTest {
         // one that is jumped over keeps what it had
         Check.value("int main(int n) { int s = 0; for (int i = 0; i < 3; i++) switch (i) { case 0: int x = 5; default: s = s * 10 + x++; } return s; }", 0, 567);
         Check.value("int main(int n) { switch (n) { case 0: int x = 5; case 1: return x; } }", 1, 0);
+        Check.value("int main(int n) { int s = 0; for (int i = 0; i < 90; i++) { int a = 1, b = a, c = b, d = c, e = d, f = e, g; f; g = f; s += 1 + (2 * (g + 3)); } return s; }",
+                0, 810);
         Check.value("int x = 3, y; int f() { return x++ + y; } int main(int n) { f(); y = 10; return f(); }", 0, 14);
         Check.value("int i; int f() { int a[4]; a[i]++; i++; return i < 4 ? f() + a[3] : a[3]; } int main(int n) { return f(); }", 0, 1);
         HomeSystem system = new HomeSystem();
@@ -152,6 +156,15 @@ public final class RunningTest {
                 0, 23);
         Check.value("int main(int n) { for (n = 3; n < 10; ) n += 4; return n; }", 0, 11);
         Check.value("int main(int n) { while (n) while (1) { n--; break; } return n; }", 3, 0);
+        String inner = "int main(int n) { int s = 0; for (int i = 0; i < 4; i++) { # if (i == 1) continue; if (i == 3) break; s += 10; } return s; }";
+        String[] loops = {"while (s % 10 < i) { s++; continue; }", "do { if (s % 10 == i) break; s++; continue; } while (1);",
+            "for (; s % 10 < i; s++) { if (s == 1000) break; continue; }", "switch (i) { case 1: s++; break; case 2: case 3: s++; }",
+            "for (;;) { while (1) break; if (s % 10 < i) { s++; continue; } break; }"};
+        for (int i = 0; i < loops.length; i++) {
+            Check.value(inner.replace("#", loops[i]), 0, 23);
+            Check.value(inner.replace("for (int i = 0; i < 4; i++) {", "int i = -1; do { i++;").replace("} return", "} while (i < 4); return").replace("#", loops[i]), 0, 23);
+            Check.value(inner.replace("for (int i = 0; i < 4; i++) {", "int i = -1; while (++i < 4) {").replace("#", loops[i]), 0, 23);
+        }
         Check.value("enum { a = 2 }; int main(int n) { switch (n) { case a + 1: return 7; case 'x': return 8; } return 9; }", 'x', 8);
     }
 

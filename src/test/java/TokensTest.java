@@ -38,6 +38,7 @@ public final class TokensTest {
         Check.expression("4294967295", 0, -1);
         Check.expression("2147483648", 0, Integer.MIN_VALUE);
         Check.expression("0x0 + 0xaF + 0xFFFFFFFF", 0, 174);
+        Check.expression("0x12345678 - 305419896 + 0xfA09", 0, 64009);
         Check.expression("0x0000001f", 0, 31);
         Check.none("int main(int n) { return `4294967296; }");
         Check.none("int main(int n) { return `00000000001; }");
