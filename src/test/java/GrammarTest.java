@@ -21,6 +21,7 @@ public final class GrammarTest {
         Check.none("int main(int n) { }`;");
         Check.none("`return 1;");
         Check.none("void x`;");
+        Check.none("void x `y; int main(int n) { }");
         Check.none("void `(");
         Check.none("void x`[3];");
         Check.none("int f(void `n) { }");
@@ -159,6 +160,10 @@ public final class GrammarTest {
         Check.none("int main(int n) { " + Check.times("switch (1) { default: ", 29) + "switch `(1) { } " + Check.times("}", 30));
         // a statement that has ended is not open
         Check.value("int main(int n) { " + Check.times("if (n) ; ", 100) + "return 4; }", 0, 4);
+        String[] ended = {"while (0) ;", "for (;0;) ;", "switch (n) { }", "if (n) ; else ;", "{ }", "n++;", "n = n ? n : n;", "int x[1];"};
+        for (int i = 0; i < ended.length; i++) {
+            Check.value("int main(int n) { " + Check.times("{" + ended[i] + "} ", 80) + "return 4; }", 0, 4);
+        }
         Check.value("int main(int n) { " + Check.times("do ; while (0); ", 80) + "return 4; }", 0, 4);
     }
 

@@ -23,6 +23,7 @@ public final class MeaningTest {
         Check.wrongText(1, "int a, `a;" + MAIN);
         Check.wrongText(1, "int a; char `a[2];" + MAIN);
         Check.wrongText(1, "enum { a, `a };" + MAIN);
+        Check.wrongText(1, "int a; int f() { int a; } char `a;" + MAIN);
         Check.wrongText(1, "enum { a }; int `a;" + MAIN);
         Check.wrongText(1, "int `f; int f() { }" + MAIN);
         Check.wrongText(1, "int f() { } enum { `f };" + MAIN);
@@ -311,5 +312,15 @@ public final class MeaningTest {
         Check.wrongText(3, "int b[1]; int a = `b;" + MAIN);
         // that a text is none counts before all that is wrong
         Check.none("int main(int n) { return x; } `}");
+        // nothing of a text is known in the next one
+        HomeSystem system = new HomeSystem();
+        Check.due("none", Check.text(system, 0, "enum { e }; int x; int f(int y) { for (;;) switch (y) { case 1: while (y) {"), HomeSystem.NONE);
+        Check.right(system, 1, "int x = 4, e = 5; int f() { return 1; } int main(int n) { switch (n) { case 1: x++; } return x + e + f(); }");
+        Check.due("run", system.run(1, 1, 9, 99), HomeSystem.DONE);
+        Check.due("value", system.value(0), 11);
+        Check.due("none", Check.text(system, 0, "int x; int f(int y) { for (;;) while (y) {"), HomeSystem.NONE);
+        Check.due("no loop", Check.text(system, 0, "int f() { break; } int main(int n) { }"), 9);
+        Check.due("no function", Check.text(system, 0, "int main(int n) { return f(1); }"), 2);
+        Check.due("no variable", Check.text(system, 0, "int main(int n) { return x; }"), 2);
     }
 }

@@ -188,6 +188,7 @@ public final class ProcessTest {
                 HomeSystem system = system("int main(int n) { if (n) spawn(1, 0); put(1); " + call + "; put(2); }", "int main(int n) { put(more(0)); }");
                 Check.due(call, system.run(0, nobody[i] == 1 ? 0 : 1, 20, 100), HomeSystem.OUT);
                 Check.paper(call, system, 0, 1);
+                Check.due("value of OUT", system.value(0), 0);
             }
         }
         // for a child 0 is its parent, but not for wait

@@ -423,6 +423,7 @@ public final class RawTest {
         int fault = HomeSystem.FAULT;
         int out = HomeSystem.OUT;
         Check.paper("get", moving(7, 2, 0x500010, 16, done), 0, 532, 533);
+        Check.paper("get to the first", moving(7, 2, 0x500000, 16, done), 0, 532, 533);
         Check.paper("get 1", moving(7, 2, 0x500010, 1, done), 0, 532, 0);
         Check.paper("get 0", moving(7, 2, 0x500010, 0, done), 0, 0, 0);
         Check.paper("get below 0", moving(7, 2, 0x500010, -5, done), 0, 0, 0);

@@ -8,6 +8,7 @@ public final class RunningTest {
         variables();
         order();
         statements();
+        nestedLoops();
         functions();
         Check.end("RunningTest");
     }
@@ -114,6 +115,8 @@ public final class RunningTest {
         // one that is jumped over keeps what it had
         Check.value("int main(int n) { int s = 0; for (int i = 0; i < 3; i++) switch (i) { case 0: int x = 5; default: s = s * 10 + x++; } return s; }", 0, 567);
         Check.value("int main(int n) { switch (n) { case 0: int x = 5; case 1: return x; } }", 1, 0);
+        Check.value("int main(int n) { int s = 0; for (int i = 0; i < 3; i++) { int x[3]; char y; switch (i) { case 0: int z = 5; break; default: s += z; } } return s; }",
+                0, 10);
         Check.value("int main(int n) { int s = 0; for (int i = 0; i < 90; i++) { int a = 1, b = a, c = b, d = c, e = d, f = e, g; f; g = f; s += 1 + (2 * (g + 3)); } return s; }",
                 0, 810);
         Check.value("int x = 3, y; int f() { return x++ + y; } int main(int n) { f(); y = 10; return f(); }", 0, 14);
@@ -156,16 +159,26 @@ public final class RunningTest {
                 0, 23);
         Check.value("int main(int n) { for (n = 3; n < 10; ) n += 4; return n; }", 0, 11);
         Check.value("int main(int n) { while (n) while (1) { n--; break; } return n; }", 3, 0);
-        String inner = "int main(int n) { int s = 0; for (int i = 0; i < 4; i++) { # if (i == 1) continue; if (i == 3) break; s += 10; } return s; }";
-        String[] loops = {"while (s % 10 < i) { s++; continue; }", "do { if (s % 10 == i) break; s++; continue; } while (1);",
-            "for (; s % 10 < i; s++) { if (s == 1000) break; continue; }", "switch (i) { case 1: s++; break; case 2: case 3: s++; }",
-            "for (;;) { while (1) break; if (s % 10 < i) { s++; continue; } break; }"};
-        for (int i = 0; i < loops.length; i++) {
-            Check.value(inner.replace("#", loops[i]), 0, 23);
-            Check.value(inner.replace("for (int i = 0; i < 4; i++) {", "int i = -1; do { i++;").replace("} return", "} while (i < 4); return").replace("#", loops[i]), 0, 23);
-            Check.value(inner.replace("for (int i = 0; i < 4; i++) {", "int i = -1; while (++i < 4) {").replace("#", loops[i]), 0, 23);
-        }
         Check.value("enum { a = 2 }; int main(int n) { switch (n) { case a + 1: return 7; case 'x': return 8; } return 9; }", 'x', 8);
+    }
+
+    /** Loops within loops: break and continue go with the innermost one, before and behind another. */
+    private static void nestedLoops() {
+        String[] heads = {"for (int i = 0; i < 4; i++) {", "int i = -1; while (++i < 4) {", "int i = -1; do { i++;"};
+        String[] tails = {"}", "}", "} while (i < 4);"};
+        String leave = " if (i == 1) continue; if (i == 3) break; ";
+        String[] loops = {"while (s % 10 < i) { s++; continue; }", "do { if (s % 10 == i) break; s++; continue; } while (1);",
+            "for (; s % 10 < i; s++) { if (s == 1000) break; continue; }",
+            "for (;;) { while (1) break; if (s % 10 < i) { s++; continue; } break; }",
+            "switch (i) { case 1: s++; break; case 2: s++; while (i == 2 && s % 10 < 2) s++; break; case 3: s++; default: }"};
+        for (int h = 0; h < heads.length; h++) {
+            for (int i = 0; i < loops.length; i++) {
+                String before = "int main(int n) { int s = 0; " + heads[h] + loops[i] + leave + " s += 10; " + tails[h] + " return s; }";
+                Check.value(before, 0, 23);
+                String behind = "int main(int n) { int s = 0; " + heads[h] + leave + loops[i] + " s += 10; " + tails[h] + " return s; }";
+                Check.value(behind, 0, 22);
+            }
+        }
     }
 
     private static void functions() {

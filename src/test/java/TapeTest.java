@@ -38,6 +38,7 @@ public final class TapeTest {
         Check.throwing("feed behind 2048", Check.STATE, () -> system.feed(0, 0, 0, 0, 0));
         Check.due("text of blanks", system.text(0), 12);
         Check.due("place of blanks", system.place(), 2049);
+        Check.throwing("the tape is empty after text", Check.ARGUMENT, () -> system.end(1));
         Check.throwing("feed after text", 0, () -> system.feed(0, 0, 0, 0, 0));
     }
 

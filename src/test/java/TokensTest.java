@@ -18,7 +18,9 @@ public final class TokensTest {
         Check.none("int main(int n) { return n; } `/* no end");
         Check.none("int main(int n) { return n; } `/*/");
         Check.none("int main(int n) { return n `/* *\n/ ; }");
+        Check.value("int main(int n) { return n*2/1 /* c */; }", 4, 8);
         Check.none("int main(int n) {`\0 }");
+        Check.none("int main(int n) { }`\0");
         Check.none("int main(int n) {`\u000b }");
         Check.none("int main(int n) { return `\u00e9; }");
     }
