@@ -108,7 +108,7 @@ public final class HomeSystem {
     private static final long UNSIGNED = 0xffffffffL;
 
     private final byte[] tape;
-    private final Compiler compiler;
+    private final TextCompiler compiler;
     private final Kernel kernel;
     private int fed;
     private int told;
@@ -120,7 +120,7 @@ public final class HomeSystem {
         Names names = new Names();
         Program program = new Program(new int[MOST_CODE], new int[FUNCTION_WORDS * MOST_HEADERS], false);
         Expressions expressions = new Expressions(tokens, names, program);
-        compiler = new Compiler(tokens, names, program, expressions);
+        compiler = new TextCompiler(tokens, names, program, expressions);
         kernel = new Kernel();
         lifeLeft = WHOLE_LIFE;
     }
@@ -213,7 +213,7 @@ public final class HomeSystem {
         if (p < 0 || p >= PROCESSES) {
             throw new IndexOutOfBoundsException();
         }
-        Process process = kernel.processes[p];
+        AnyProcess process = kernel.processes[p];
         return process == null ? NONE : process.outcome;
     }
 
@@ -221,7 +221,7 @@ public final class HomeSystem {
         if (p < 0 || p >= PROCESSES) {
             throw new IndexOutOfBoundsException();
         }
-        Process process = kernel.processes[p];
+        AnyProcess process = kernel.processes[p];
         return process == null ? 0 : process.given;
     }
 
@@ -229,7 +229,7 @@ public final class HomeSystem {
         if (p < 0 || p >= PROCESSES) {
             throw new IndexOutOfBoundsException();
         }
-        Process process = kernel.processes[p];
+        AnyProcess process = kernel.processes[p];
         return process == null ? 0 : process.written;
     }
 
@@ -237,7 +237,7 @@ public final class HomeSystem {
         if (p < 0 || p >= PROCESSES) {
             throw new IndexOutOfBoundsException();
         }
-        Process process = kernel.processes[p];
+        AnyProcess process = kernel.processes[p];
         if (process == null || i < 0 || i >= process.written || i >= PAPER) {
             throw new IndexOutOfBoundsException();
         }
@@ -1307,7 +1307,7 @@ public final class HomeSystem {
     }
 
     /** Reads texts: declarations and statements. */
-    private static final class Compiler {
+    private static final class TextCompiler {
         private final Tokens tokens;
         private final Names names;
         private final Expressions expressions;
@@ -1330,7 +1330,7 @@ public final class HomeSystem {
         private int breaks;
         private int continues;
 
-        Compiler(Tokens tokens, Names names, Program program, Expressions expressions) {
+        TextCompiler(Tokens tokens, Names names, Program program, Expressions expressions) {
             this.tokens = tokens;
             this.names = names;
             this.program = program;
@@ -1910,7 +1910,7 @@ public final class HomeSystem {
     }
 
     /** A process: how it stands, what it wrote, and the call that it is in. */
-    private abstract static class Process {
+    private abstract static class AnyProcess {
         final int id;
         final int[] numbers = new int[PAPER];
         int written;
@@ -1923,7 +1923,7 @@ public final class HomeSystem {
         int first;
         int second;
 
-        Process(int id) {
+        AnyProcess(int id) {
             this.id = id;
         }
 
@@ -1965,7 +1965,7 @@ public final class HomeSystem {
     }
 
     /** A process of a text: its instructions work on a hand of numbers, a frame and the variables of the text. */
-    private static final class TextProcess extends Process {
+    private static final class TextProcess extends AnyProcess {
         private static final int RETURN_WORDS = 3;
         private final int[] memory = new int[MOST_WORDS + MOST_STACK];
         private final int[] hand = new int[MOST_STACK + WIDTH];
@@ -2286,7 +2286,7 @@ public final class HomeSystem {
     }
 
     /** A process of raw words. */
-    private static final class RawProcess extends Process {
+    private static final class RawProcess extends AnyProcess {
         private final int[] registers = new int[REGISTERS];
         /** A page is the process's own from its first writing on; before that it is 0 throughout. */
         private final int[] pageTimes = new int[CELLS >> PAGE_BITS];
@@ -2607,7 +2607,7 @@ public final class HomeSystem {
         final Program[] programs = new Program[PROGRAMS];
         final int[] blocks = new int[DISK];
         /** Those of the last run; null where none was begun. */
-        final Process[] processes = new Process[PROCESSES];
+        final AnyProcess[] processes = new AnyProcess[PROCESSES];
         private final TextProcess[] texts = new TextProcess[PROCESSES];
         private final RawProcess[] raws = new RawProcess[PROCESSES];
         /** Rows in both ways between each process and its parent: row 2 p goes up from p, row 2 p + 1 down to p. */
@@ -2664,7 +2664,7 @@ public final class HomeSystem {
         }
 
         /** Lets a process go on until it ends or waits; answers whether it did anything. */
-        private boolean advance(Process process) {
+        private boolean advance(AnyProcess process) {
             boolean moved = false;
             boolean going = process != null && process.outcome == RUNNING;
             for (int i = 0; i < MILLION && going; i++) {
@@ -2680,7 +2680,7 @@ public final class HomeSystem {
         }
 
         /** Does a call; answers false if it waits. */
-        private boolean serve(Process process) {
+        private boolean serve(AnyProcess process) {
             int p = process.id;
             int other = partner(process);
             switch (process.which) {
@@ -2707,7 +2707,7 @@ public final class HomeSystem {
         }
 
         /** Whom the handle in a call means, or NONE. */
-        private int partner(Process process) {
+        private int partner(AnyProcess process) {
             int handle = process.first;
             if (handle == 0) {
                 return process.id == 0 ? NONE : (process.id - 1) / 3;
@@ -2715,7 +2715,7 @@ public final class HomeSystem {
             return handle >= 1 && handle <= process.children ? 3 * process.id + handle : NONE;
         }
 
-        private boolean send(Process process, int other, int row) {
+        private boolean send(AnyProcess process, int other, int row) {
             if (other == NONE) {
                 process.finish(OUT, 0);
                 return true;
@@ -2732,7 +2732,7 @@ public final class HomeSystem {
         }
 
         /** Both recv and more: they wait for the same. */
-        private boolean receive(Process process, int other, int row) {
+        private boolean receive(AnyProcess process, int other, int row) {
             if (other == NONE) {
                 process.finish(OUT, 0);
                 return true;
@@ -2756,7 +2756,7 @@ public final class HomeSystem {
             return true;
         }
 
-        private boolean await(Process process, int other) {
+        private boolean await(AnyProcess process, int other) {
             if (other == NONE) {
                 process.finish(OUT, 0);
                 return true;
@@ -2769,7 +2769,7 @@ public final class HomeSystem {
             return true;
         }
 
-        private int spawn(Process process, int program, int x) {
+        private int spawn(AnyProcess process, int program, int x) {
             int child = 3 * process.id + process.children + 1;
             if (program < 0 || program >= PROGRAMS || programs[program] == null
                     || process.children == 3 || child >= PROCESSES) {
@@ -2780,7 +2780,7 @@ public final class HomeSystem {
             return process.children;
         }
 
-        private void move(Process process, int block) {
+        private void move(AnyProcess process, int block) {
             if (process.id != 0 || block < 0 || block >= BLOCKS) {
                 process.finish(OUT, 0);
                 return;
