@@ -36,6 +36,42 @@ final class Check {
         due(what + " throws (1 state, 2 argument, 3 index, 4 arithmetic)", got, want);
     }
 
+    /** A call that is refused: it throws, and all that can be asked is as it was. */
+    static void refused(String what, int want, HomeSystem system, Call call) {
+        int[] before = state(system);
+        throwing(what, want, call);
+        int[] behind = state(system);
+        for (int i = 0; i < before.length; i++) {
+            due(what + " is refused and leaves answer " + i, behind[i], before[i]);
+        }
+    }
+
+    /** What can be asked without changing anything, but for most of the disk and of the papers: some hundred calls. */
+    private static int[] state(HomeSystem system) {
+        int[] all = new int[100];
+        int at = 0;
+        all[at++] = system.life();
+        all[at++] = system.place();
+        all[at++] = system.pages();
+        all[at++] = system.wrong();
+        for (int i = 0; i < 128; i += 16) {
+            all[at++] = system.disk(i);
+        }
+        all[at++] = system.disk(127);
+        for (int p = 0; p < 13; p++) {
+            int written = system.paper(p);
+            all[at++] = system.outcome(p);
+            all[at++] = system.value(p);
+            all[at++] = written;
+            all[at++] = written == 0 ? 0 : system.paperAt(p, Math.min(255, written - 1));
+        }
+        for (int p = 1; p < 13; p++) {
+            all[at++] = system.unread(p, true);
+            all[at++] = system.unread(p, false);
+        }
+        return all;
+    }
+
     /** Brings bytes onto an empty tape; where the last twenty do not fit, some before them are fed again. */
     static void tape(HomeSystem system, byte[] bytes) {
         for (int at = 0; at < bytes.length; at += 20) {
@@ -78,6 +114,16 @@ final class Check {
         due("text " + marked, text(system, 0, text), want);
         due("place " + marked, system.place(), (at < 0 ? text.length() : at) + 1);
         due("run " + marked, system.run(0, 0, 1, 1), HomeSystem.NONE);
+    }
+
+    /** What text and place tell of a text, and that its program is empty if it is not right. */
+    static void told(String text, int want, int place) {
+        HomeSystem system = new HomeSystem();
+        due("text " + text, text(system, 0, text), want);
+        due("place " + text, system.place(), place);
+        if (want != 0) {
+            due("run " + text, system.run(0, 0, 1, 1), HomeSystem.NONE);
+        }
     }
 
     /** A text that can't stand, at ` or at its end. */
