@@ -1,8 +1,5 @@
 /** Promises 6 and 8 to 13 for raw programs: what each instruction and each call does. */
-public final class RawTest {
-    private static final int A = 10, B = 11, C = 12, CALL = 17, T0 = 5, T1 = 6, T2 = 7;
-    private static final int SYSTEM = 0x73;
-
+public final class RawTest extends Words {
     public static void main(String[] args) {
         arithmetic();
         immediates();
@@ -20,81 +17,6 @@ public final class RawTest {
         blocks();
         longPaper();
         Check.end("RawTest");
-    }
-
-    private static int r(int g, int f, int d, int a, int b) {
-        return g << 25 | b << 20 | a << 15 | f << 12 | d << 7 | 0x33;
-    }
-
-    private static int i(int op, int f, int d, int a, int number) {
-        return (number & 0xfff) << 20 | a << 15 | f << 12 | d << 7 | op;
-    }
-
-    private static int addi(int d, int a, int number) {
-        return i(0x13, 0, d, a, number);
-    }
-
-    private static int s(int f, int b, int a, int number) {
-        return (number >> 5 & 127) << 25 | b << 20 | a << 15 | f << 12 | (number & 31) << 7 | 0x23;
-    }
-
-    private static int branch(int f, int a, int b, int by) {
-        return (by >> 12 & 1) << 31 | (by >> 5 & 63) << 25 | b << 20 | a << 15 | f << 12 | (by >> 1 & 15) << 8 | (by >> 11 & 1) << 7 | 0x63;
-    }
-
-    private static int jal(int d, int by) {
-        return (by >> 20 & 1) << 31 | (by >> 1 & 0x3ff) << 21 | (by >> 11 & 1) << 20 | (by >> 12 & 255) << 12 | d << 7 | 0x6f;
-    }
-
-    private static int lui(int d, int upper) {
-        return upper << 12 | d << 7 | 0x37;
-    }
-
-    private static int auipc(int d, int upper) {
-        return upper << 12 | d << 7 | 0x17;
-    }
-
-    private static int[] join(int[]... parts) {
-        int length = 0;
-        for (int[] part : parts) {
-            length += part.length;
-        }
-        int[] all = new int[length];
-        int at = 0;
-        for (int[] part : parts) {
-            System.arraycopy(part, 0, all, at, part.length);
-            at += part.length;
-        }
-        return all;
-    }
-
-    private static int[] words(int... words) {
-        return words;
-    }
-
-    /** Two words that bring any number into a register. */
-    private static int[] li(int d, int number) {
-        int upper = number + 0x800 >>> 12;
-        return words(lui(d, upper), addi(d, d, number - (upper << 12)));
-    }
-
-    private static HomeSystem begun(int x, int want, int[]... parts) {
-        HomeSystem system = new HomeSystem();
-        Check.words(system, 0, join(parts));
-        Check.due("raw run", system.run(0, x, 100, 0), want);
-        return system;
-    }
-
-    /** What register a holds at the call 0 behind these words. */
-    private static void gives(String what, int x, int want, int[]... parts) {
-        HomeSystem system = begun(x, HomeSystem.DONE, join(parts), words(addi(CALL, 0, 0), SYSTEM));
-        Check.due(what, system.value(0), want);
-    }
-
-    private static void faults(String what, int[]... parts) {
-        HomeSystem system = begun(0, HomeSystem.FAULT, words(addi(CALL, 0, 1), SYSTEM), join(parts), words(SYSTEM));
-        Check.due(what + ": value", system.value(0), 0);
-        Check.due(what + ": paper", system.paper(0), 1);
     }
 
     private static void binary(String what, int g, int f, int a, int b, int want) {
