@@ -166,6 +166,15 @@ final class Check {
         right(system, 0, text);
         due("run with work " + work + ", stack " + stack + " of " + text, system.run(0, x, work, stack), want);
         due("outcome of " + text, system.outcome(0), want);
+        noValue(text, system, 0);
+    }
+
+    /** A process that neither came to main's end nor to a call of end has the value 0. */
+    static void noValue(String what, HomeSystem system, int process) {
+        int how = system.outcome(process);
+        if (how != HomeSystem.DONE && how != HomeSystem.ENDED) {
+            due("value of process " + process + " of " + what, system.value(process), 0);
+        }
     }
 
     static String times(String text, int count) {

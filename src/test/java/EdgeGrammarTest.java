@@ -447,6 +447,17 @@ public final class EdgeGrammarTest {
             stands(58 - 13, "(" + left + ")" + last);
             stands(58 - 24, plus + last);
             stands(57 - 12, left + " ? n : n;");
+            // what is no chain of that sort is one operand, whatever it is
+            for (int k = 0; k < sorts[i].length; k++) {
+                String then = " " + sorts[i][k] + " n";
+                depth("-n" + then, 3);
+                depth("n++" + then, 3);
+                depth("f(n)" + then, 3);
+                depth("a[n]" + then, 3);
+                depth("(n = n)" + then, 3);
+                depth("(n ? n : n)" + then, 3);
+                depth("n" + then, 2);
+            }
             // an operator of another sort makes it deeper
             String[] other = sorts[(i + 1) % sorts.length];
             stands(56, "(n " + sorts[i][0] + " n) " + other[0] + " n;");

@@ -39,6 +39,7 @@ public final class EdgeMeaningTest {
         frames();
         functionsAndVariables();
         theFirstAndTheLeast();
+        theNextText();
         Check.end("EdgeMeaningTest");
     }
 
@@ -400,6 +401,12 @@ public final class EdgeMeaningTest {
             Check.wrongText(2, CONSTANTS[i].replace("#", "`q2(1)"));
             Check.wrongText(2, CONSTANTS[i].replace("#", "`q2[1]"));
         }
+        // nor is their number known, as a size or as a case that was there
+        String[] unknown = {"0 + `q2", "`q2 * 0", "0 - `q2", "-`q2 - 1", "(`q2) + 5000", "`q2 ? 0 : 0", "1 ? `q2 : 0", "0 || `q2", "1 && `q2"};
+        for (int i = 0; i < unknown.length; i++) {
+            Check.wrongText(2, "int x[" + unknown[i] + "];" + MAIN);
+            Check.wrongText(2, "int main(int n) { switch (n) { case 0: case 1: case -1: case " + unknown[i] + ": } }");
+        }
     }
 
     /** "8 a size that is not 1 .. 4096, at the k's first token". */
@@ -594,6 +601,41 @@ public final class EdgeMeaningTest {
         Check.wrongText(12, "int a[4096], b[4096], c;");
         Check.wrongText(12, "void f() { int a[4096], b[4096]; }");
         Check.wrongText(13, "int a[4096], b[4096], c; void f() { int a[4096], b[4096]; }" + main);
+    }
+
+    /** Nothing of one text is known in the next, however it ended. */
+    private static void theNextText() {
+        String[] before = {"int x; int f(int y) { for (;;) while (y) { switch (y) { case 1: int z;", "int x; int f(int y) { int z; { { { @",
+            "int f() { " + Check.times("{", 59) + "{", "int f() { return " + Check.times("- ", 59) + "@", "enum { x, f, a = (((((((((((@", "int x[(((@",
+            "int f() { while (1) { do { for (;;) { q(1); } } while (1); } } int x, f, x;", "int f(int x) { " + Check.times("{ int x; ", 50)};
+        String[] texts = {"int x, `x;" + MAIN, "int x; enum { `x };" + MAIN, "int main(int n) { `continue; }", "int main(int n) { `break; }", "int main(int n) { return `x; }",
+            "int main(int n) { return `f(); }", "int main(int n) { return `z; }", "int x = `a;" + MAIN, "int main(int n) { return 0; `return; }"};
+        int[] wrongs = {1, 1, 9, 9, 2, 2, 2, 2, 11};
+        for (int i = 0; i < before.length; i++) {
+            for (int k = 0; k < texts.length; k++) {
+                HomeSystem system = new HomeSystem();
+                Check.text(system, 0, before[i]);
+                Check.due(texts[k] + " behind " + before[i], Check.text(system, 0, texts[k].replace("`", "")), wrongs[k]);
+                Check.due("its place", system.place(), texts[k].indexOf('`') + 1);
+            }
+            HomeSystem system = new HomeSystem();
+            Check.text(system, 0, before[i]);
+            Check.right(system, 0, "int x = 4; int f(int y) " + Check.times("{", 60) + "return x;" + Check.times("}", 60) + " int main(int n) { return f(n); }");
+            Check.due("run", system.run(0, 3, 9, 99), HomeSystem.DONE);
+            Check.due("value", system.value(0), 4);
+        }
+        // strings of many texts
+        HomeSystem system = new HomeSystem();
+        for (int i = 0; i < 3; i++) {
+            String string = Check.times("x", 198) + (char) ('a' + i);
+            StringBuilder text = new StringBuilder();
+            for (int k = 0; k < 8; k++) {
+                text.append("char s").append(k).append("[201]=\"").append(string).append((char) ('p' + k)).append("\";");
+            }
+            Check.right(system, i, text + "int main(int n){return s0[198]+s0[199]*1000+(s7[198]+s7[199]*1000)*0;}");
+            Check.due("run", system.run(i, 0, 1, 99), HomeSystem.DONE);
+            Check.due("value", system.value(0), 'a' + i + 'p' * 1000);
+        }
     }
 
     /** "by the first of these in the order of its tokens (of two at one token, the one with the lesser number here)". */

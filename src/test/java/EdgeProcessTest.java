@@ -323,6 +323,7 @@ public final class EdgeProcessTest {
                     boolean somebody = handles[i] >= 1 && handles[i] <= children;
                     Check.due(calls[c] + " of " + handles[i] + " with " + children, system.run(0, handles[i], 20, 99), somebody ? HomeSystem.DONE : HomeSystem.OUT);
                     Check.due("paper", system.paper(0), somebody ? 2 : 1);
+                    Check.noValue(calls[c], system, 0);
                 }
             }
         }
@@ -366,6 +367,8 @@ public final class EdgeProcessTest {
                         "int main(int n) { more(0); send(0, 3); send(0, 4); send(0, 5); spawn(2, 0); " + (child == 0 ? "return 1;" : "recv(1);") + " }", SLEEPER);
                 Check.due("parent", system.run(0, 0, 30, 99), parent == 0 ? HomeSystem.DONE : HomeSystem.WAITS);
                 Check.due("child", system.outcome(1), child == 0 ? HomeSystem.DONE : HomeSystem.WAITS);
+                Check.noValue("waiting", system, 0);
+                Check.noValue("waiting", system, 1);
                 Check.due("unread up, " + parent + child, system.unread(1, true), parent == 0 ? 0 : 3);
                 Check.due("unread down, " + parent + child, system.unread(1, false), child == 0 ? 0 : 2);
                 for (int p = 2; p < 13; p++) {
@@ -438,6 +441,7 @@ public final class EdgeProcessTest {
             boolean there = blocks[i] >= 0 && blocks[i] <= 7;
             HomeSystem system = withDisk("int a[16]; int main(int n) { get(n, a); put(a[0]); put(a[15]); }");
             Check.due("get of " + blocks[i], system.run(0, blocks[i], 100, 99), there ? HomeSystem.DONE : HomeSystem.OUT);
+            Check.noValue("get", system, 0);
             if (there) {
                 Check.paper("get of " + blocks[i], system, 0, 1000 + 16 * blocks[i], 1015 + 16 * blocks[i]);
             } else {
@@ -445,6 +449,7 @@ public final class EdgeProcessTest {
             }
             system = withDisk("int a[16] = { 3 }; int main(int n) { a[15] = 4; set(n, a); }");
             Check.due("set of " + blocks[i], system.run(0, blocks[i], 100, 99), there ? HomeSystem.DONE : HomeSystem.OUT);
+            Check.noValue("set", system, 0);
             for (int k = 0; k < 128; k++) {
                 boolean set = there && k / 16 == blocks[i];
                 Check.due("word " + k, system.disk(k), set ? k % 16 == 0 ? 3 : k % 16 == 15 ? 4 : 0 : 1000 + k);

@@ -14,6 +14,7 @@ public final class EdgeRawTest extends Words {
         edgesOfMemory();
         halvesAndWordsWhereTheyMayStand();
         memoryIsZeroAtFirst();
+        everyPageOfMemory();
         registerZero();
         everyOp();
         everyRegisterOperation();
@@ -209,6 +210,22 @@ public final class EdgeRawTest extends Words {
         Check.due("0 beside it", system.value(0), 0);
     }
 
+    /** What is written to one page stays when another is written. */
+    private static void everyPageOfMemory() {
+        int[] addresses = {0x500000, 0x501000, 0x503ffc, 0x7e0000, 0x7e1000, 0x7f0ffc, 0x7ff000, 0x7ffffc};
+        for (int up = 0; up < 2; up++) {
+            int[][] stores = new int[addresses.length][];
+            int[][] loads = new int[addresses.length][];
+            for (int k = 0; k < addresses.length; k++) {
+                int at = addresses[up == 0 ? k : addresses.length - 1 - k];
+                stores[k] = join(li(T0, at), words(addi(T1, 0, k + 1), s(2, T1, T0, 0)));
+                loads[k] = join(li(T0, at), words(i(3, 2, A, T0, 0), SYSTEM));
+            }
+            HomeSystem system = begun(0, HomeSystem.DONE, join(stores), words(addi(CALL, 0, 1)), join(loads), words(addi(CALL, 0, 0), SYSTEM));
+            Check.paper("pages", system, 0, 1, 2, 3, 4, 5, 6, 7, 8);
+        }
+    }
+
     /** "register 0 is always 0". */
     private static void registerZero() {
         int[][] writers = {{lui(0, 5)}, {auipc(0, 5)}, {jal(0, 4)}, {auipc(T0, 0), i(0x67, 0, 0, T0, 8)}, {lui(T0, 0x400), i(3, 2, 0, T0, 0)}, {addi(0, A, 3)},
@@ -333,7 +350,7 @@ public final class EdgeRawTest extends Words {
         for (int k = 0; k < DISTANCES.length; k++) {
             leap("jump", DISTANCES[k], jal(T0, DISTANCES[k]));
         }
-        int[] far = {1 << 12, 1 << 13, 1 << 14, 1 << 15, 1 << 16, 1 << 17, 1 << 18, 1 << 19, -(1 << 20), 1048572, 0xfffff000};
+        int[] far = {1 << 11, 1 << 12, 1 << 13, 1 << 14, 1 << 15, 1 << 16, 1 << 17, 1 << 18, 1 << 19, -(1 << 20), 1048572, 0xfffff000};
         for (int k = 0; k < far.length; k++) {
             faults("jump far by " + far[k], words(jal(T0, far[k])));
         }
@@ -446,6 +463,14 @@ public final class EdgeRawTest extends Words {
         }
         faults("branch 2", words(branch(2, 0, 0, 8)));
         faults("branch 3", words(branch(3, 0, 0, 8)));
+        // a branch leaves all registers
+        for (int k = 1; k < 32; k++) {
+            int want = k == 2 ? 0x800000 : k == A ? 6 : 0;
+            gives("register " + k + " behind a branch", 6, want, words(branch(0, 0, 0, 8), 0, addi(A, k, 0)));
+            gives("register " + k + " behind no branch", 6, want, words(branch(1, 0, 0, 8), addi(A, k, 0)));
+            gives("register " + k + " behind a jump", 6, want, words(jal(0, 8), 0, addi(A, k, 0)));
+            gives("register " + k + " behind nothing", 6, want, words(0x0ff0008f, addi(A, k, 0)));
+        }
     }
 
     /** "shifts by the lowest five bits of b". */
@@ -614,7 +639,8 @@ public final class EdgeRawTest extends Words {
     private static void numbersOfCalls() {
         int[] numbers = {LOW, -1, 0xa, 0xb, 0xc, 0xd, 0xe, 0xf, 0x14, 0x15, 0x20, 0x100, 0x101, 0x10000, HIGH, 0x80000001};
         for (int k = 0; k < numbers.length; k++) {
-            begun(5, HomeSystem.FAULT, li(CALL, numbers[k]), words(SYSTEM));
+            HomeSystem system = begun(5, HomeSystem.FAULT, li(CALL, numbers[k]), words(SYSTEM, addi(CALL, 0, 0), SYSTEM));
+            Check.due("value", system.value(0), 0);
         }
         int[] right = {0, 9, 0x10, 0x11, 0x12, 0x13};
         int[] outcomes = {HomeSystem.DONE, HomeSystem.ENDED, HomeSystem.OUT, HomeSystem.ZERO, HomeSystem.DEEP, HomeSystem.WORN};
@@ -694,6 +720,7 @@ public final class EdgeRawTest extends Words {
         int[] look = words(lui(T0, 0x500), addi(T2, T0, 80), addi(CALL, 0, 1), i(3, 2, A, T0, 0), SYSTEM, addi(T0, T0, 4), branch(1, T0, T2, -12), addi(A, 0, 3), addi(CALL, 0, 0), SYSTEM);
         Check.words(system, 0, join(fill, li(A, block), li(B, address), li(C, count), words(addi(CALL, 0, call), SYSTEM), look));
         Check.due("call " + call + " of block " + block + " at " + Integer.toHexString(address) + ", " + count, system.run(0, 0, 20, 0), want);
+        Check.noValue("call " + call, system, 0);
         return system;
     }
 

@@ -24,7 +24,11 @@ public final class EdgeRunningTest {
         stackThatJustSuffices();
         stackIsTakenBehindWork();
         stackOfOpenCalls();
+        stackIsGivenBackExactly();
         framesOfArrays();
+        statementsWithinExpressions();
+        callsAndTheirVariables();
+        runsThatEndAmidCalls();
         Check.end("EdgeRunningTest");
     }
 
@@ -421,6 +425,69 @@ public final class EdgeRunningTest {
         String inner = "int f(int x) { int a[20]; return x; } int main(int n) { return f(f(f(n))); }";
         Check.outcome(inner, 0, 9, 6 + 26, HomeSystem.DONE);
         Check.outcome(inner, 0, 9, 6 + 25, HomeSystem.DEEP);
+    }
+
+    /** "until it ends": as much as it took, whatever it called itself. */
+    private static void stackIsGivenBackExactly() {
+        // main has 4 + 1 + 1, g 4 + 1, f 4 + 1, big 4 + 20
+        String[] before = {"", "g();", "f();", "f(); f(); g();", "for (int i = 0; i < 3; i++) { f(); }", "if (f()) g();", "v();"};
+        for (int i = 0; i < before.length; i++) {
+            String text = "int g() { return 1; } int f() { return g(); } void v() { g(); return; } void big() { int a[20]; } int main(int n) { " + before[i] + " big(); }";
+            int main = i == 4 ? 8 : 6;
+            Check.outcome(text, 0, 50, main + 24, HomeSystem.DONE);
+            Check.outcome(text, 0, 50, main + 23, HomeSystem.DEEP);
+        }
+        // the same one level deeper
+        String deeper = "int g() { return 1; } int f(int x) { g(); return x ? f(x - 1) + g() : 0; } int big() { int a[40]; } int main(int n) { f(2); f(2); return big(); }";
+        Check.outcome(deeper, 0, 50, 6 + 44, HomeSystem.DONE);
+        Check.outcome(deeper, 0, 50, 6 + 43, HomeSystem.DEEP);
+    }
+
+    /** What statements do, within a call within an expression, leaves the numbers that wait there as they are. */
+    private static void statementsWithinExpressions() {
+        String[] bodies = {"", ";", "n;", "n = 3;", "n + 1;", "switch (n) { }", "switch (n) { case 1: break; case 2: break; }", "switch (n) { case 7: case 8: case 2: n = 4; default: n = 5; }",
+            "switch (n) { default: case 2: }", "switch (n) { case 0: switch (n + 1) { case 1: break; case 5: } case 2: switch (n) { } }", "v();", "w();", "(v());", "f(1, a);",
+            "f(n, a) + f(n, a);", "get(0, a);", "len(a);", "for (n; 0; n) ;", "for (v(); 0; v()) ;", "for (int i = 0; i < 2; i++) ;", "while (0) ;", "do ; while (0);",
+            "if (n) ; else ;", "if (n) v();", "n ? 1 : 2;", "n && 1; n || 1;", "1 && n && 2 || 0;", "a[0]; a[0]++; --a[1]; a[0] += 1;", "int x; int y = 3; int z[3] = { 1 }; char s[3] = \"a\";",
+            "for (int i = 0; i < 3; i++) { if (i) continue; switch (i) { case 0: continue; } }", "for (;;) { switch (n) { default: break; } break; }",
+            "while (1) { switch (n) { case 2: return 5; case 1: break; } break; }", "do { switch (n) { case 1: continue; default: } break; } while (0);", "put(n);", "spawn(9, 1);"};
+        for (int i = 0; i < bodies.length; i++) {
+            String text = "int a[2]; void v() { return; } void w() { } int f(int x, int y[]) { return x; } int g(int n) { " + bodies[i] + " return 5; } "
+                    + "int main(int n) { return 1000 + (g(n) * 10 + g(n + 1)); }";
+            for (int n = 0; n < 4; n++) {
+                Check.value(text, n, 1055);
+            }
+        }
+    }
+
+    private static void callsAndTheirVariables() {
+        Check.value("int f(int a) { int x[20]; x[0] = a; x[19] = 2 * a; return x[0] + x[19]; } int main(int n) { int s = 0; for (int i = 0; i < 40; i++) s += f(i); return s; }", 0, 2340);
+        Check.value("int f(int a) { int x[20]; if (a) { x[3] = a; int y = f(a - 1); return x[3] * 10 + y % 10; } return 3; } int main(int n) { return f(n); }", 9, 93);
+        Check.value("int f(int d, int a[]) { int b[3]; b[d % 3] = d; if (d) f(d - 1, b); for (int i = 0; i < 3; i++) a[i] += b[i]; return a[0] * 100 + a[1] * 10 + a[2]; } "
+                + "int main(int n) { int a[3]; return f(n, a); }", 4, 352);
+    }
+
+    /** A run that ended within calls and expressions leaves nothing behind for the next one. */
+    private static void runsThatEndAmidCalls() {
+        String ones = Check.times("1, ", 59);
+        StringBuilder parameters = new StringBuilder("int a0");
+        for (int i = 1; i < 60; i++) {
+            parameters.append(", int a").append(i);
+        }
+        HomeSystem system = new HomeSystem();
+        Check.right(system, 0, "int f(" + parameters + ") { return a0 + a59; } int main(int n) { return f(" + ones + "7 / n); }");
+        for (int i = 0; i < 20; i++) {
+            Check.due("by 0", system.run(0, 0, 9, 512), HomeSystem.ZERO);
+        }
+        Check.due("behind it", system.run(0, 1, 9, 512), HomeSystem.DONE);
+        Check.due("value", system.value(0), 8);
+        Check.right(system, 1, "int r(int x) { return x ? 1 + r(x - 1) : 0; } int main(int n) { return r(n); }");
+        for (int i = 0; i < 6; i++) {
+            Check.due("worn", system.run(1, 50, 40, 512), HomeSystem.WORN);
+            Check.due("deep", system.run(1, 60, 70, 300), HomeSystem.DEEP);
+        }
+        Check.due("behind it", system.run(1, 50, 60, 512), HomeSystem.DONE);
+        Check.due("value", system.value(0), 50);
     }
 
     /** "its size for each other array of int, a quarter of it (rounded up) for one of char". */

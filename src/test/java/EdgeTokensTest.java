@@ -23,6 +23,7 @@ public final class EdgeTokensTest {
         everyByteOfStrings();
         everyEscapedByteOfStrings();
         lengthsOfStrings();
+        severalStrings();
         stringsWithoutAnEnd();
         longestMarks();
         marksThatAreNone();
@@ -295,6 +296,24 @@ public final class EdgeTokensTest {
         Check.value("char a[201] = " + longest + ", b[201] = " + longest + ", c[201] = " + longest + ", d[201] = " + longest
                 + "; int main(int n) { char e[201] = " + longest + ", f[201] = " + longest + "; return a[199] + b[199] + c[199] + d[199] + e[199] + f[199] + a[200] + f[200]; }",
                 0, 6 * 'x');
+    }
+
+    /** Each of several strings keeps its own bytes, up to its last one. */
+    private static void severalStrings() {
+        Check.value("char a[4] = \"abc\", b[1] = \"\", c[6] = \"defgh\", d[2] = \"i\", e[3] = \"jk\"; int h(char s[]) { int x = len(s); for (int i = 0; i < len(s); i++) x = x * 31 + s[i]; return x; } "
+                + "int main(int n) { return h(a) + h(b) * 3 + h(c) * 5 + h(d) * 7 + h(e) * 11; }", 0,
+                hash("abc") + hash("") * 3 + hash("defgh") * 5 + hash("i") * 7 + hash("jk") * 11);
+        Check.value("int h(char s[]) { int x = len(s); for (int i = 0; i < len(s); i++) x = x * 31 + s[i]; return x; } "
+                + "int main(int n) { char a[4] = \"abc\", b[1] = \"\", c[6] = \"defgh\", d[2] = \"i\", e[3] = \"jk\"; return h(a) + h(b) * 3 + h(c) * 5 + h(d) * 7 + h(e) * 11; }", 0,
+                hash("abc") + hash("") * 3 + hash("defgh") * 5 + hash("i") * 7 + hash("jk") * 11);
+    }
+
+    private static int hash(String string) {
+        int x = string.length() + 1;
+        for (int i = 0; i < string.length(); i++) {
+            x = x * 31 + string.charAt(i);
+        }
+        return x * 31;
     }
 
     private static void stringsWithoutAnEnd() {

@@ -63,6 +63,7 @@ abstract class Words {
         HomeSystem system = new HomeSystem();
         Check.words(system, 0, join(parts));
         Check.due("raw run", system.run(0, x, 100, 0), want);
+        Check.noValue("raw run", system, 0);
         return system;
     }
 
