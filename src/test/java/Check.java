@@ -81,7 +81,9 @@ final class Check {
                 int b = from + i < bytes.length ? bytes[from + i] & 255 : 0;
                 words[i / 4] |= b << 24 - 8 * (i % 4);
             }
-            system.end(from);
+            if (from < at) {
+                system.end(from);
+            }
             system.feed(words[0], words[1], words[2], words[3], words[4]);
         }
         system.end(bytes.length);

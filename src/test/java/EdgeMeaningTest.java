@@ -623,6 +623,9 @@ public final class EdgeMeaningTest {
             Check.right(system, 0, "int x = 4; int f(int y) " + Check.times("{", 60) + "return x;" + Check.times("}", 60) + " int main(int n) { return f(n); }");
             Check.due("run", system.run(0, 3, 9, 99), HomeSystem.DONE);
             Check.due("value", system.value(0), 4);
+            Check.text(system, 0, before[i]);
+            Check.due("61 open behind " + before[i], Check.text(system, 0, "int f() " + Check.times("{", 61) + Check.times("}", 61) + MAIN), HomeSystem.NONE);
+            Check.due("its place", system.place(), 8 + 61);
         }
         // strings of many texts
         HomeSystem system = new HomeSystem();

@@ -26,6 +26,7 @@ public final class EdgeProcessTest {
         handleOfTheParent();
         endsOfProcesses();
         unreadInTheEnd();
+        unreadByWhoeverIsTheParent();
         waitingTakesWorkOnce();
         sizesOfBlocks();
         numbersOfBlocks();
@@ -386,6 +387,29 @@ public final class EdgeProcessTest {
             int n = (p - 1) / 3;
             Check.due("unread up from " + p, system.unread(p, true), p < 4 ? p % 3 + 1 : 4);
             Check.due("unread down to " + p, system.unread(p, false), (p - 2 * n) % 4 + 1);
+        }
+    }
+
+    /** It is the parent of each that has ended or not: all ways in which the four parents end or wait. */
+    private static void unreadByWhoeverIsTheParent() {
+        // one child of each sends nothing, the others some; whoever has children ends, or waits for the one that sends nothing
+        for (int silent = 1; silent < 4; silent++) {
+            HomeSystem system = null;
+            for (int mask = 0; mask < 16; mask++) {
+                if (mask % 8 == 0) {
+                    system = system("int main(int x) { int n = x % 16, m = x / 16, k = (n + 2) % 3 + 1; if (n < 4) for (int i = 1; i < 4; i++) spawn(0, m * 16 + 3 * n + i); "
+                            + "for (int i = 0; n && k != " + silent + " && i < k; i++) send(0, i); if (n > 3) recv(0); if (m >> n & 1) return 1; recv(" + silent + "); }");
+                }
+                Check.due("run " + mask, system.run(0, 16 * mask, 50, 99), (mask & 1) == 0 ? HomeSystem.WAITS : HomeSystem.DONE);
+                for (int p = 1; p < 13; p++) {
+                    int parent = (p - 1) / 3;
+                    int sent = p - 3 * parent == silent ? 0 : p - 3 * parent;
+                    boolean ends = p < 4 && (mask >> p & 1) == 1;
+                    Check.due("outcome " + p + " with " + mask, system.outcome(p), ends ? HomeSystem.DONE : HomeSystem.WAITS);
+                    Check.due("unread from " + p + " with " + mask, system.unread(p, true), (mask >> parent & 1) == 1 ? 0 : sent);
+                    Check.due("nothing down to " + p, system.unread(p, false), 0);
+                }
+            }
         }
     }
 
