@@ -705,8 +705,9 @@ public final class HomeSystem {
             open--;
         }
 
+        /** Of what is wrong the first by its token is kept, at one token the least; at first that is behind all tokens. */
         void blame(int number, int token) {
-            if (token < wrongToken || token == wrongToken && (wrongNumber == 0 || number < wrongNumber)) {
+            if (token < wrongToken || token == wrongToken && number < wrongNumber) {
                 wrongToken = token;
                 wrongNumber = number;
             }
