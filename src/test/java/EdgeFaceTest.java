@@ -26,6 +26,7 @@ public final class EdgeFaceTest {
         wordsOfTheDisk();
         everyWordOfTheDisk();
         lastRunCounts();
+        lastRunStays();
         programsStay();
         fiveHundredAndTwelveCalls();
         objectsOfTheirOwn();
@@ -551,6 +552,44 @@ public final class EdgeFaceTest {
         Check.due("unread up", system.unread(1, true), 1);
         Check.due("unread down", system.unread(1, false), 1);
         Check.due("paper", system.paper(0), 2);
+    }
+
+    /** What is told of each of thirteen processes. */
+    private static int[] processes(HomeSystem system) {
+        int[] all = new int[13 * 6];
+        for (int p = 0; p < 13; p++) {
+            all[6 * p] = system.outcome(p);
+            all[6 * p + 1] = system.value(p);
+            all[6 * p + 2] = system.paper(p);
+            all[6 * p + 3] = system.paperAt(p, 0);
+            all[6 * p + 4] = p == 0 ? 0 : system.unread(p, true);
+            all[6 * p + 5] = p == 0 ? 0 : system.unread(p, false);
+        }
+        return all;
+    }
+
+    /** "in the last run": whatever comes behind it that is no run leaves what is told of its processes. */
+    private static void lastRunStays() {
+        HomeSystem system = new HomeSystem();
+        Check.right(system, 0, "int main(int n) { put(n + 100); for (int i = 1; i < 4; i++) if (spawn(0, n * 3 + i) > 0) send(i, i); while (n) send(0, n); wait(1); }");
+        Check.due("all wait: process 0 for its child, the others as their rows are full", system.run(0, 0, 40, 99), HomeSystem.WAITS);
+        int[] before = processes(system);
+        Check.due("the last process", before[6 * 12], HomeSystem.WAITS);
+        Check.due("what it wrote", before[6 * 12 + 3], 112);
+        Check.due("unread up", before[6 * 12 + 4], 4);
+        Check.due("unread down", before[6 * 12 + 5], 1);
+        Check.tape(system, Check.bytes(RIGHT));
+        Check.due("text", system.text(0), 0);
+        Check.due("no text", Check.text(system, 1, "int"), HomeSystem.NONE);
+        Check.due("raw", system.raw(0), HomeSystem.NONE);
+        Check.words(system, 2, 1, 2, 3);
+        system.turn(200);
+        system.setDisk(5, 6);
+        Check.due("empty", system.run(0, 0, 1, 1), HomeSystem.NONE);
+        int[] behind = processes(system);
+        for (int i = 0; i < before.length; i++) {
+            Check.due("answer " + i % 6 + " of process " + i / 6 + " stays", behind[i], before[i]);
+        }
     }
 
     /** Programs stay from run to run, and what one does to its variables does not. */

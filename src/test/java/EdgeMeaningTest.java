@@ -15,6 +15,7 @@ public final class EdgeMeaningTest {
         "int main(int n) { int q[#]; }", "int main(int n) { char q[9] = { #, 3 }; }", "int main(int n) { for (int q[#];;) ; }"};
 
     public static void main(String[] args) {
+        numbersOfEnum();
         twoInTheText();
         namesThatAreThereAlready();
         twoInAFunction();
@@ -46,6 +47,23 @@ public final class EdgeMeaningTest {
     /** A text with # for something, which is right. */
     private static void fine(String text) {
         Check.told(text, 0, 0);
+    }
+
+    /** "A name of enum is the number k; without one, 0 if it is the first, otherwise one more than the one before it (wrapping)." */
+    private static void numbersOfEnum() {
+        String main = " int main(int n) { put(a); put(b); put(c); put(d); }";
+        String[] texts = {"enum { a, b, c, d };", "enum { a, b }; enum { c, d };", "enum { a }; enum { b }; enum { c }; enum { d };",
+            "enum { a = 7, b }; enum { c, d };", "enum { a, b = 9, c, d };", "enum { a = -1, b, c = -7, d };", "enum { a = 2147483647, b, c = -1, d };",
+            "enum { a = 3, b = a * a, c, d = c - b };", "enum { a = 5 }; int x; enum { b, c }; int f() { } enum { d };", "enum { a = 4 }; enum { b = a, c }; enum { d = c + 1 };",
+            "enum { a = 8, b = 8, c = 0, d };", "enum { a = 0x80000000, b, c = 4294967295, d };"};
+        int[][] numbers = {{0, 1, 2, 3}, {0, 1, 0, 1}, {0, 0, 0, 0}, {7, 8, 0, 1}, {0, 9, 10, 11}, {-1, 0, -7, -6},
+            {Integer.MAX_VALUE, Integer.MIN_VALUE, -1, 0}, {3, 9, 10, 1}, {5, 0, 1, 0}, {4, 4, 5, 6}, {8, 8, 0, 1}, {Integer.MIN_VALUE, Integer.MIN_VALUE + 1, -1, 0}};
+        for (int i = 0; i < texts.length; i++) {
+            HomeSystem system = new HomeSystem();
+            Check.right(system, 0, texts[i] + main);
+            Check.due("run", system.run(0, 0, 5, 99), HomeSystem.DONE);
+            Check.paper(texts[i], system, 0, numbers[i]);
+        }
     }
 
     /** "1 a name that is known in the same scope already": all pairs of what a text declares. */
@@ -285,6 +303,9 @@ public final class EdgeMeaningTest {
         Check.wrongText(4, start + "`f(a, 1); }");
         Check.wrongText(4, start + "return 1 + `v(1); }");
         Check.wrongText(4, start + "n = `len(a, a); }");
+        // it stays what its function gives: no array, and nothing to assign to
+        Check.wrongText(3, start + "len(`(f(1, 2))); }");
+        Check.wrongText(6, start + "`(f(1, 2)) = 3; }");
         // "those of a name that is no function's, may be anything"
         Check.wrongText(2, start + "`q(a, c, v()); }");
         Check.wrongText(2, start + "`n(a, v()); }");

@@ -708,6 +708,14 @@ public final class EdgeRawTest extends Words {
                 Check.due("register " + k + " behind call " + calls[c], system.value(0), k == A ? answers[c] : k == CALL ? calls[c] : 100 + k);
             }
         }
+        for (int call = 7; call < 9; call++) {
+            for (int k = 1; k < 32; k++) {
+                HomeSystem system = begun(0, HomeSystem.DONE, fill, words(addi(A, 0, 3), lui(B, 0x500), addi(C, 0, 2), addi(CALL, 0, call), SYSTEM),
+                        words(addi(A, k, 0), addi(CALL, 0, 0), SYSTEM));
+                Check.due("register " + k + " behind call " + call, system.value(0),
+                        k == A ? 3 : k == B ? 0x500000 : k == C ? 2 : k == CALL ? call : 100 + k);
+            }
+        }
     }
 
     /** Call 7 or 8 of a block, with register b and c; 0x500000 and on hold 7, 8 and so on for twenty words. */

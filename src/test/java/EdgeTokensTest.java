@@ -11,11 +11,13 @@ public final class EdgeTokensTest {
         lengthsOfNames();
         bytesOfNames();
         keywordsAreNoNames();
+        otherWordsAreNames();
         numbersOfDigits();
         greatestNumber();
         numbersOfFigures();
         figures();
         whereAnXBeginsFigures();
+        lettersBehindNumbers();
         numbersWrapWhereverTheyStand();
         everyCharacter();
         everyEscapedCharacter();
@@ -127,6 +129,18 @@ public final class EdgeTokensTest {
         }
     }
 
+    /** There are fifteen keywords: what else is one in C is a name. */
+    private static void otherWordsAreNames() {
+        String[] words = ("auto const double extern float goto inline long register short signed sizeof static struct typedef union unsigned "
+                + "volatile bool true false null NULL string byte asm define include").split(" ");
+        for (int i = 0; i < words.length; i++) {
+            Check.value("int main(int " + words[i] + ") { return " + words[i] + "; }", 6, 6);
+            Check.none("int x; " + "`" + words[i] + " x;" + MAIN);
+        }
+        Check.told("int put; int main(int n) { }", 1, 5);
+        Check.told("int x, main; int f(int n) { }", 12, 30);
+    }
+
     /** "NUMBERS (1 to 10 digits". */
     private static void numbersOfDigits() {
         for (int count = 1; count <= 10; count++) {
@@ -195,6 +209,25 @@ public final class EdgeTokensTest {
         Check.none("int main(int n) { return 0x0`x1; }");
         Check.none("int main(int n) { int x; return 0 `x; }");
         Check.value("int main(int n) { int x1 = 5; return 0+x1; }", 0, 5);
+    }
+
+    /** A number ends before a letter that is no figure of it, and a name can't stand there. */
+    private static void lettersBehindNumbers() {
+        for (int b = 'A'; b <= 'z'; b++) {
+            boolean letter = b >= 'a' || b <= 'Z' || b == '_';
+            boolean figure = b >= 'a' && b <= 'f' || b <= 'F';
+            if (letter) {
+                Check.none("int main(int n) { return 7`" + (char) b + "; }");
+                Check.none("int main(int n) { return 'a'`" + (char) b + "; }");
+                Check.none("char s[2] = \"a\"`" + (char) b + ";" + MAIN);
+            }
+            if (letter && b != 'x') {
+                Check.none("int main(int n) { return 0`" + (char) b + "; }");
+            }
+            if (letter && !figure) {
+                Check.none("int main(int n) { return 0x7`" + (char) b + "; }");
+            }
+        }
     }
 
     /** "from 2 to the 31 on it wraps, wherever it stands". */
