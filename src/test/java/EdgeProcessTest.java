@@ -209,15 +209,19 @@ public final class EdgeProcessTest {
     private static void aFullRowWhoseReaderEnds() {
         String[] ends = {"return 1;", "end(1);", "1 / 0;", "int a[1]; a[1];", "recv(3);", "for (;;) ;", "main(1);"};
         int[] outcomes = {HomeSystem.DONE, HomeSystem.ENDED, HomeSystem.ZERO, HomeSystem.OUT, HomeSystem.OUT, HomeSystem.WORN, HomeSystem.DEEP};
-        for (int i = 0; i < ends.length; i++) {
-            HomeSystem system = system("int main(int n) { spawn(1, 0); for (int i = 0; i < 9; i++) send(1, i); return 6; }", "int main(int n) { recv(0); " + ends[i] + " }");
-            Check.due("parent goes on behind " + ends[i], system.run(0, 0, 40, 24), HomeSystem.DONE);
-            Check.due("child " + ends[i], system.outcome(1), outcomes[i]);
-            Check.due("unread " + ends[i], system.unread(1, false), 0);
-            system = system("int main(int n) { spawn(1, 0); recv(1); " + ends[i] + " }", "int main(int n) { for (int i = 0; i < 9; i++) send(0, i); return 6; }");
-            Check.due("parent " + ends[i], system.run(0, 0, 40, 24), outcomes[i]);
-            Check.due("child goes on behind " + ends[i], system.outcome(1), HomeSystem.DONE);
-            Check.due("unread " + ends[i], system.unread(1, true), 0);
+        // the first number is read before the end, or only seen, so that the row is full then
+        String[] looks = {"recv", "more"};
+        for (int i = 0; i < 2 * ends.length; i++) {
+            String end = ends[i / 2];
+            String look = looks[i % 2];
+            HomeSystem system = system("int main(int n) { spawn(1, 0); for (int i = 0; i < 9; i++) send(1, i); return 6; }", "int main(int n) { " + look + "(0); " + end + " }");
+            Check.due("parent goes on behind " + end, system.run(0, 0, 40, 24), HomeSystem.DONE);
+            Check.due("child " + end, system.outcome(1), outcomes[i / 2]);
+            Check.due("unread " + end, system.unread(1, false), 0);
+            system = system("int main(int n) { spawn(1, 0); " + look + "(1); " + end + " }", "int main(int n) { for (int i = 0; i < 9; i++) send(0, i); return 6; }");
+            Check.due("parent " + end, system.run(0, 0, 40, 24), outcomes[i / 2]);
+            Check.due("child goes on behind " + end, system.outcome(1), HomeSystem.DONE);
+            Check.due("unread " + end, system.unread(1, true), 0);
         }
     }
 

@@ -13,6 +13,8 @@ public final class EdgeRunningTest {
         charsOfElements();
         indices();
         indicesAreSeenLast();
+        operandsFromTheLeft();
+        allElseFromTheLeft();
         handedOn();
         neighboursStay();
         beginnings();
@@ -251,6 +253,72 @@ public final class EdgeRunningTest {
         Check.value("int x = 3; int f() { x = 10; return 1; } int main(int n) { x += f(); return x; }", 0, 11);
         Check.value("int a[2] = { 3 }; int f() { a[0] = 10; return 1; } int main(int n) { a[0] -= f(); return a[0]; }", 0, 9);
         Check.value("int i, a[3]; int f() { i = 2; return 7; } int main(int n) { a[i] = f(); return a[0] * 10 + a[2]; }", 0, 70);
+    }
+
+    private static final String[] BETWEEN = {"||", "&&", "|", "^", "&", "==", "!=", "<", ">", "<=", ">=", "<<", ">>", "+", "-", "*", "/", "%"};
+
+    private static int between(int i, int a, int b) {
+        int[] all = {a != 0 || b != 0 ? 1 : 0, a != 0 && b != 0 ? 1 : 0, a | b, a ^ b, a & b, a == b ? 1 : 0, a != b ? 1 : 0, a < b ? 1 : 0, a > b ? 1 : 0,
+            a <= b ? 1 : 0, a >= b ? 1 : 0, a << b, a >> b, a + b, a - b, a * b, a / b, a % b};
+        return all[i];
+    }
+
+    /** "All is done from the left: operands": the left one is read before the right one changes it. */
+    private static void operandsFromTheLeft() {
+        for (int i = 0; i < BETWEEN.length; i++) {
+            String operator = " " + BETWEEN[i] + " ";
+            Check.expression("n" + operator + "(n = 3)", 7, between(i, 7, 3));
+            Check.expression("n" + operator + "n++", 7, between(i, 7, 7));
+            Check.expression("n" + operator + "--n", 7, between(i, 7, 6));
+            Check.expression("n++" + operator + "n", 7, between(i, 7, 8));
+            Check.expression("(n = 9)" + operator + "n", 7, between(i, 9, 9));
+            Check.expression("(n = 2)" + operator + "(n += 3)", 7, between(i, 2, 5));
+            Check.value("int g = 7; int f() { g = 3; return 2; } int main(int n) { return g" + operator + "f(); }", 0, between(i, 7, 2));
+            Check.value("int g = 7; int f() { g = 3; return 2; } int main(int n) { return f()" + operator + "g; }", 0, between(i, 2, 3));
+            Check.value("int main(int n) { int b[2] = { 7, 5 }; return b[n]" + operator + "(b[n] = 3); }", 0, between(i, 7, 3));
+            Check.value("char b[2] = { 7, 5 }; int main(int n) { return b[n]" + operator + "b[++n]; }", 0, between(i, 7, 5));
+            Check.value("int f(int b[]) { return b[0]" + operator + "(b[0] = 3); } int main(int n) { int b[2] = { 7, 5 }; return f(b); }", 0, between(i, 7, 3));
+            told("p(6)" + operator + "p(2)", BETWEEN[i].equals("||") ? "6" : "6 2");
+        }
+    }
+
+    /** In which order p, which writes its number and gives it, is called. */
+    private static void told(String statement, String want) {
+        HomeSystem system = new HomeSystem();
+        Check.right(system, 0, "int b[9]; int p(int x) { put(x); return x; } int f(int x, int y, int z) { return x; } int main(int n) { int c[9]; " + statement + "; }");
+        Check.right(system, 1, "int main(int n) { more(0); }");
+        Check.due(statement, system.run(0, 0, 50, 99), HomeSystem.DONE);
+        String[] numbers = want.split(" ");
+        int[] due = new int[numbers.length];
+        for (int i = 0; i < due.length; i++) {
+            due[i] = Integer.parseInt(numbers[i]);
+        }
+        Check.paper(statement, system, 0, due);
+    }
+
+    /** "arguments", and the parts of all else. */
+    private static void allElseFromTheLeft() {
+        told("f(p(1), p(2), p(3))", "1 2 3");
+        told("f(f(p(1), p(2), p(3)), p(4), f(p(5), p(6), p(7)))", "1 2 3 4 5 6 7");
+        told("p(1) + p(2) * p(3) - (p(4) + p(5))", "1 2 3 4 5");
+        told("p(1) < p(2) == p(3) << p(4)", "1 2 3 4");
+        told("p(0) ? p(1) : p(2)", "0 2");
+        told("p(5) ? p(1) : p(2)", "5 1");
+        told("b[p(1)] = p(2)", "1 2");
+        told("b[p(1)] += p(2)", "1 2");
+        told("c[p(1)] = b[p(2)] = p(3)", "1 2 3");
+        told("b[p(1)] + c[p(2)]", "1 2");
+        told("int x = p(1), y = p(2)", "1 2");
+        told("int x = p(1), y[2] = { 3 }, z = p(y[0])", "1 3");
+        told("spawn(p(1), p(2)); send(p(1), p(3)); spawn(p(7), p(5))", "1 2 1 3 7 5");
+        told("for (p(1); p(0); p(2)) p(3)", "1 0");
+        told("for (int i = p(1); i < p(3); i += p(1)) p(8)", "1 3 8 1 3 8 1 3");
+        told("while (p(0)) p(1)", "0");
+        told("do p(1); while (p(0))", "1 0");
+        told("if (p(1)) p(2); else p(3)", "1 2");
+        told("switch (p(2)) { case 1: p(7); case 2: p(8); default: p(9); }", "2 8 9");
+        Check.value("int f(int a, int b, int c, int d) { return a * 1000 + b * 100 + c * 10 + d; } int main(int n) { return f(n, n = 3, n++, n); }", 7, 7334);
+        Check.value("int f(int a[], int b, int c) { return a[0] * 100 + b * 10 + c; } int main(int n) { int x[1]; return f(x, x[0]++, x[0] = 5); }", 7, 505);
     }
 
     /** "An array is handed on itself; len is its size." */
